@@ -311,11 +311,11 @@ public final class BookedEmpty {
         }
         trial.copyFrom(now);
         int best = 0;
-        int least = Integer.MAX_VALUE;
+        int least = 0;
         for (int hold = 0; hold <= 12; hold++) {
             trial.hold = hold;
             int empty = trial.emptyInDays(n);
-            if (empty <= least) {
+            if (hold == 0 || empty <= least) {
                 least = empty;
                 best = hold;
             }
@@ -329,7 +329,7 @@ public final class BookedEmpty {
         }
         long span = now.span(quarter, quarter + n);
         int best = ABSENT;
-        int bestRank = Integer.MAX_VALUE;
+        int bestRank = 0;
         for (int r = 0; r < now.roomCount; r++) {
             Room room = now.rooms[r];
             if (room.fault || room.seats < seats || (now.peopleIn(r, now.day) & span) != 0) {
@@ -337,7 +337,7 @@ public final class BookedEmpty {
             }
             boolean free = (now.heldIn(r, now.day) & span) == 0;
             int rank = free ? room.seats : room.seats + GREATEST;
-            if (rank < bestRank) {
+            if (best == ABSENT || rank < bestRank) {
                 bestRank = rank;
                 best = r;
             }

@@ -9,6 +9,7 @@ public final class BestTest {
         roomy();
         more();
         mend();
+        mostAheadOfDearest();
         holds();
         sudden();
         suddenOrder();
@@ -156,6 +157,36 @@ public final class BestTest {
         C.due("the ROOM that helps most", x.best(2), 1);
     }
 
+    /** Where the dearest WAY has fewer HOURS, the WAYS with the most count. */
+    private static void mostAheadOfDearest() {
+        BookedEmpty x = Check.rooms(5, 5);
+        x.fault(1, true);
+        x.hour(1, 0, 0, 12, 1);
+        x.hour(1, 0, 0, 2, 1);
+        x.hour(1, 0, 4, 2, 1);
+        x.hour(0, 0, 0, 12, 6);
+        x.hour(0, 0, 0, 12, 6);
+        Check.office(x, "like 50 h=0&!r=2;like 50 h=0&r=2");
+        C.due("two are most", x.most(0), 2);
+        C.due("but the dearest is one", x.dearest(0), 60);
+        C.due("which has", x.dearest(10), 0);
+        C.due("best(0)", x.best(0), 1);
+        C.due("best(1)", x.best(1), 1);
+        C.due("best(2)", x.best(2), 1);
+        BookedEmpty y = Check.rooms(5, 6, 6);
+        y.fault(0, true);
+        y.fault(1, true);
+        y.hour(1, 0, 0, 12, 1);
+        y.hour(1, 0, 0, 2, 6);
+        y.hour(1, 0, 4, 2, 6);
+        y.hour(0, 0, 20, 2, 1);
+        Check.office(y, "like 50 h=0");
+        C.due("three are most", y.most(0), 3);
+        C.due("best(0), all in the last", y.best(0), 4);
+        C.due("best(1)", y.best(1), 1);
+        C.due("best(2), also with room 0 for the dear one", y.best(2), 0);
+    }
+
     private static void holds() {
         BookedEmpty x = Check.rooms(9);
         C.due("holds(0)", x.holds(0), -2);
@@ -197,7 +228,9 @@ public final class BestTest {
         }
         C.due("the fewest SEATS, the first of these", x.sudden(1, 0, 1), 1);
         C.due("five SEATS", x.sudden(5, 0, 1), 0);
+        C.due("six SEATS", x.sudden(6, 0, 1), 0);
         C.due("seven SEATS", x.sudden(7, 39, 12), 3);
+        C.due("nine SEATS", x.sudden(9, 0, 12), 3);
         C.due("ten SEATS", x.sudden(10, 0, 1), -5);
         x.fault(1, true);
         C.due("none with a FAULT", x.sudden(1, 0, 1), 2);

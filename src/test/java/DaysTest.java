@@ -59,6 +59,16 @@ public final class DaysTest {
         x.give(0, -1);
         x.give(1, -1);
         C.due("waste(30), nobody has a ROOM", x.waste(30), 0);
+        BookedEmpty y = Check.rooms(5);
+        y.hour(6, 0, 10, 6, 1);
+        y.row(0, 1, 1);
+        y.row(0, 2, 2);
+        y.give(0, 0);
+        y.pass(3);
+        int[] want = {0, 0, 0, 1, 3, 3};
+        for (int n = 0; n < want.length; n++) {
+            C.due("a TOLD one, DAYS 3, 4, 5 ..: waste(" + n + ")", y.waste(n), want[n]);
+        }
     }
 
     private static void on() {

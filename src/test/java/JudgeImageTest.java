@@ -54,7 +54,9 @@ public final class JudgeImageTest {
         BookedEmpty x = Check.rooms(4, 4);
         C.due("undo(), no IMAGE", x.undo(), -3);
         x.hour(6, 0, 0, 1, 1);
+        x.row(0, 0, 4);
         x.row(0, 2, 7);
+        x.row(0, 3, 6);
         x.give(0, 1);
         x.fault(0, true);
         x.pass(5);
@@ -67,7 +69,9 @@ public final class JudgeImageTest {
         C.due("image()", x.image(), 1);
         x.room(9);
         x.hour(0, 0, 5, 1, 1);
+        x.row(0, 0, 1);
         x.row(0, 2, 1);
+        x.row(0, 3, 1);
         x.give(0, 0);
         x.fault(0, false);
         x.pass(1);
@@ -88,7 +92,9 @@ public final class JudgeImageTest {
             C.due("at(0, 1)", x.at(0, 1), 1);
             C.due("looked()", x.looked(), 2);
             C.due("where(0): ROOM 1 is SEEN no more", x.where(0), 16 + 2);
+            C.due("row(0, 0, 3)", x.row(0, 0, 3), 4);
             C.due("row(0, 2, 3)", x.row(0, 2, 3), 7);
+            C.due("row(0, 3, 3)", x.row(0, 3, 3), 6);
             x.give(0, -1);
             x.pass(60);
         }

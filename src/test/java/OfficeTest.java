@@ -12,6 +12,7 @@ public final class OfficeTest {
         worth();
         holdAndQuarters();
         newest();
+        behindFaults();
         told();
         C.end();
     }
@@ -46,6 +47,17 @@ public final class OfficeTest {
         fault("", 0);
         fault("x", 0);
         fault(" hold 1", 0);
+        fault("5", 0);
+        fault("12 h=1", 0);
+        fault("like 1 =5", 7);
+        fault("like 1 5", 7);
+        fault("like 1 h5", 8);
+        fault("like 1 h=:", 9);
+        fault("like 1 h=1:", 10);
+        fault("like 1 h=/", 9);
+        fault("hold :", 5);
+        fault("hold 1:", 6);
+        fault("hold 1/", 6);
         fault("l", 1);
         fault("lx", 1);
         fault("like", 4);
@@ -202,6 +214,27 @@ public final class OfficeTest {
         C.due("day without", x.told(2), 40);
         Check.office(x, "day 4");
         C.due("hold without", x.told(1), 2);
+    }
+
+    /** A text with a FAULT leaves nothing to the next one. */
+    private static void behindFaults() {
+        String[] wrong = {"hold 9;x", "day 9;x", "like 9 h=0;mind 3 r=0;like 40 h=0x", "like 1 ((h=0&h=0)|!h=1", "like 5 h>"};
+        BookedEmpty x = Check.rooms(1);
+        x.hour(0, 0, 0, 1, 1);
+        for (int n = 0; n < 4; n++) {
+            for (String text : wrong) {
+                C.isTrue("a FAULT", Check.office(x, text) < -10);
+            }
+        }
+        C.due("then a right one", Check.office(x, "mind 1 h=0&r=0"), 0);
+        C.due("WORTH", x.of(0, 20), 9);
+        C.due("HOLD", x.told(1), 2);
+        C.due("QUARTERS", x.told(2), 40);
+        Check.office(x, "like 9 h=0;day 9;hold 9;x");
+        C.due("then another", Check.office(x, "like 1 h=1"), 1);
+        C.due("WORTH by that", x.of(0, 20), 10);
+        C.due("HOLD by that", x.told(1), 2);
+        C.due("QUARTERS by that", x.told(2), 40);
     }
 
     private static void newest() {

@@ -63,6 +63,18 @@ public final class PlanBookTest {
         x.plan(-1, 0);
         x.plan(0, 0);
         C.due("ends(0) beyond the last DAY", x.ends(0), 2);
+        BookedEmpty y = Check.rooms(9);
+        y.hour(6, 0, 10, 5, 1);
+        y.row(0, 1, 1);
+        y.row(0, 3, 2);
+        y.give(0, 0);
+        int[] want = {0, 1, 0, 2, 0, 1, 0, 2};
+        for (int n = 0; n < want.length; n++) {
+            C.due("ends(0), TOLD, by " + n + " DAYS", y.ends(0), want[n]);
+            y.plan(0, 0);
+        }
+        y.pass(1);
+        C.due("ends(0), eight DAYS from DAY 1 on", y.ends(0), 1);
     }
 
     private static void book() {

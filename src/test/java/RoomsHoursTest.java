@@ -166,11 +166,15 @@ public final class RoomsHoursTest {
         C.due("row(0, 0, 1), LATE", x.row(0, 0, 1), -3);
         C.due("row(1, 1, 5)", x.row(1, 1, 5), 0);
         C.due("row(1, 1, 9)", x.row(1, 1, 9), 5);
+        C.due("row(1, 1, 0)", x.row(1, 1, 0), 9);
+        C.due("row(1, 1, 9) again", x.row(1, 1, 9), 0);
         C.due("row(1, 3, 1)", x.row(1, 3, 1), 0);
         int[] comes = {11, 20, 11, 12, 11, 20};
-        for (int day = 0; day < comes.length; day++) {
+        for (int day = 0; day < 4; day++) {
             C.due("TOLD COMES on DAY " + day, x.of(1, 6), comes[day]);
-            C.due("TOLD COMES, on(" + day + " ..)", x.on(4, 11), comes[day]);
+            C.due("TOLD COMES, four DAYS on", x.on(4, 11), comes[day]);
+            C.due("TOLD COMES, a DAY on", x.on(1, 11), comes[day + 1]);
+            C.due("TOLD COMES, two DAYS on", x.on(2, 11), comes[day + 2]);
             x.pass(1);
         }
     }
@@ -273,6 +277,16 @@ public final class RoomsHoursTest {
         C.due("at(0, 3), FREE, of 10", x.at(0, 3), 8);
         C.due("GOES does not mind the day", x.of(0, 7), 20);
         Check.office(x, "hold 99;day 40");
+        BookedEmpty y = Check.rooms(20);
+        y.hour(0, 0, 10, 4, 1);
+        y.hour(0, 0, 10, 4, 1);
+        Check.office(y, "day 10");
+        y.give(0, 0);
+        y.give(1, 0);
+        Check.office(y, "day 12");
+        C.due("two in one ROOM, since the day is longer now", y.inside(0, 10), 3);
+        C.due("HELD for two", y.held(0, 11), 3);
+        C.due("two of 12 quarters are not FREE", y.at(0, 3), 10);
         C.due("hold 99", x.of(1, 8), 2);
         C.due("day 40", x.of(0, 8), 12);
     }

@@ -25,10 +25,12 @@ public final class TapeTest {
         C.due("it holds nothing yet", x.item(0, 0, 1), -11);
         C.due("tape(0, 3, 60)", x.tape(0, 3, 60), 1);
         C.due("item(0, 59, 9)", x.item(0, 59, 9), 1);
+        C.due("item(0, 0, 9)", x.item(0, 0, 9), 1);
         C.due("tape(0, 0, -1)", x.tape(0, 0, -1), -14);
         C.due("it stays", x.read(0, 59), 9);
         C.due("tape(0, 3, 60) anew", x.tape(0, 3, 60), 1);
         C.due("all 0", x.read(0, 59), 0);
+        C.due("also the first", x.read(0, 0), 0);
         C.due("tape(0, -1, 99)", x.tape(0, -1, 99), 1);
         C.due("nothing there", x.read(0, 0), Long.MIN_VALUE);
         C.due("nothing there", x.item(0, 0, 0), -11);
