@@ -16,8 +16,8 @@ public final class BookedEmpty {
 
     private static final int HOUR = 0, BUSY = 1, GHOSTLY = 2, LATE = 3, OVER = 4, STANDING = 5, TOLD = 6;
     private static final int KINDS = 7;
-    /** The KIND that each KIND stands under. */
-    private static final int[] ABOVE = {-1, HOUR, HOUR, HOUR, BUSY, GHOSTLY, LATE};
+    /** The KIND that each KIND stands under; -1: none. */
+    private static final int[] ABOVE = {-1, 0, 0, 0, 1, 2, 3};
 
     private final House now;
     private final House kept;

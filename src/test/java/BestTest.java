@@ -185,6 +185,20 @@ public final class BestTest {
         C.due("best(0), all in the last", y.best(0), 4);
         C.due("best(1)", y.best(1), 1);
         C.due("best(2), also with room 0 for the dear one", y.best(2), 0);
+        BookedEmpty z = Check.rooms(5, 5, 1);
+        z.fault(1, true);
+        z.fault(2, true);
+        z.hour(1, 0, 0, 12, 5);
+        z.hour(1, 0, 0, 12, 5);
+        z.hour(1, 0, 0, 2, 5);
+        z.hour(1, 0, 4, 2, 5);
+        Check.office(z, "like 50 h<2");
+        C.due("the two short ones", z.most(0), 2);
+        C.due("best(1), one of the dear ones, not both of them", z.best(1), 1);
+        C.due("best(2), likewise", z.best(2), 1);
+        z.fault(1, false);
+        C.due("three", z.most(0), 3);
+        C.due("best(2), a ROOM too small to help", z.best(2), -5);
     }
 
     private static void holds() {
