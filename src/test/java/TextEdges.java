@@ -371,6 +371,10 @@ final class TextEdges {
         s.due("HOLD without, behind another OFFICE", x.told(1), 2);
         s.due("QUARTERS without, behind another OFFICE", x.told(2), 40);
         x = new BookedEmpty();
+        Check.office(x, "hold 5;hold 99;day 20;day 41");
+        s.due("the last hold, 99", x.told(1), 99);
+        s.due("the last day, 41: 40", x.told(2), 40);
+        x = new BookedEmpty();
         Check.office(x, "hold 9;day 9;");
         Check.office(x, "like 1 h=1");
         s.due("HOLD without, behind a text with a FAULT", x.told(1), 2);

@@ -308,6 +308,15 @@ final class ToldEdges {
         s.due("which OFFICE holds: QUARTERS", y.told(2), 37);
         s.due("which OFFICE holds: WORTH", y.of(1, 20), 13);
         s.due("OFFICES stay", y.count(2), 2);
+        Check.feed(y, "day 9");
+        y.tape(1, 3, 1);
+        y.item(1, 0, 77);
+        y.act(1, TELLS, 7);
+        y.undo();
+        s.due("THE TEXT stays", y.count(6), 5);
+        s.due("TAPES stay", y.read(1, 0), 77);
+        s.due("THE TRACE stays", y.trace(0), 12);
+        s.due("THE TEXT stays: office()", y.office(), 2);
     }
 
     private void alike(long[] want, long[] got) {
