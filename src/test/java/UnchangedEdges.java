@@ -218,21 +218,23 @@ final class UnchangedEdges {
         s.due(call + ": so many answers", got.length, want.length);
     }
 
-    private void refusedWithoutImage() {
+    /** One ROOM, an HOUR that has it, and one that would CLASH with that. */
+    private static BookedEmpty clashing() {
         BookedEmpty x = Check.rooms(20);
         x.hour(0, 0, 10, 2, 1);
         x.give(0, 0);
-        long[] before = Everything.of(x);
+        x.hour(0, 0, 11, 2, 1);
+        return x;
+    }
+
+    private void refusedWithoutImage() {
+        long[] before = Everything.of(clashing());
+        BookedEmpty x = clashing();
         s.due("undo()", x.undo(), STATE);
         alike("undo()", before, Everything.of(x));
-        x.hour(0, 0, 11, 2, 1);
-        before = Everything.of(x);
-        BookedEmpty y = Check.rooms(20);
-        y.hour(0, 0, 10, 2, 1);
-        y.give(0, 0);
-        y.hour(0, 0, 11, 2, 1);
-        s.due("give(1, 0): it CLASHES", y.give(1, 0), STATE);
-        alike("give(1, 0)", before, Everything.of(y));
+        x = clashing();
+        s.due("give(1, 0): it CLASHES", x.give(1, 0), STATE);
+        alike("give(1, 0)", before, Everything.of(x));
     }
 
     private void refusedDays() {
