@@ -228,7 +228,7 @@ final class TextEdges {
             + "s SEATS of the ROOM.");
         int[] numbers = {1, 2, 3, 4, 6, 15};
         for (int i = 0; i < numbers.length; i++) {
-            for (int n = numbers[i] - 1; n <= numbers[i] + 1; n++) {
+            for (int n = 0; n <= 99; n++) {
                 is(LETTERS.charAt(i) + "<" + n, numbers[i] < n);
                 is(LETTERS.charAt(i) + "=" + n, numbers[i] == n);
                 is(LETTERS.charAt(i) + ">" + n, numbers[i] > n);
@@ -342,6 +342,7 @@ final class TextEdges {
         for (int n = 0; n < 4; n++) {
             Check.office(x, "like 9 h=1" + "|h=1".repeat(n == 0 ? 0 : 21) + ";");
         }
+        Check.office(x, "like 9 h=0;like 9 h=0;");
         Check.office(x, "mind 1 h=0");
         s.due("nothing of texts with a FAULT", x.of(0, 20), 9);
         s.due("nothing of texts with a FAULT", x.of(1, 20), 10);
