@@ -1127,7 +1127,8 @@ public final class BookedEmpty {
         }
 
         private int oneOf(String signs) {
-            int found = signs.indexOf((char) sign());
+            int sign = sign();
+            int found = sign < 0 ? -1 : signs.indexOf((char) sign);
             if (found < 0) {
                 failed = true;
                 return 0;

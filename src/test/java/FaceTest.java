@@ -32,9 +32,7 @@ public final class FaceTest {
         Set<String> got = new TreeSet<>();
         for (Method m : BookedEmpty.class.getDeclaredMethods()) {
             if (Modifier.isPrivate(m.getModifiers())) {
-                for (String w : METHODS) {
-                    c.isTrue("no private " + m.getName(), !w.contains(" " + m.getName() + "("));
-                }
+                c.isTrue("no private " + m, !names().contains(m.getName()));
                 continue;
             }
             c.isTrue(m + " is public, not static", Modifier.isPublic(m.getModifiers())
@@ -58,7 +56,18 @@ public final class FaceTest {
         for (Class<?> inner : BookedEmpty.class.getDeclaredClasses()) {
             c.isTrue(inner + " is static, not public", Modifier.isStatic(inner.getModifiers())
                 && !Modifier.isPublic(inner.getModifiers()));
+            for (Method m : inner.getDeclaredMethods()) {
+                c.isTrue("no private " + m, !Modifier.isPrivate(m.getModifiers()) || !names().contains(m.getName()));
+            }
         }
+    }
+
+    private static Set<String> names() {
+        Set<String> names = new TreeSet<>();
+        for (String method : METHODS) {
+            names.add(method.substring(method.indexOf(' ') + 1, method.indexOf('(')));
+        }
+        return names;
     }
 
     private static void constants(Check c) {
